@@ -1,0 +1,209 @@
+/** Promises 33 to 38. */
+public final class TraysTest {
+    private TraysTest() {
+    }
+
+    public static void main(String[] args) {
+        tray();
+        write();
+        say();
+        sayWords();
+        images();
+        imagesLeaveOut();
+        imagesOfEverything();
+        count();
+        Check.finish(TraysTest.class);
+    }
+
+    private static void tray() {
+        BurntOak oak = new BurntOak();
+        Check.thrown("33: no tray 4", Check.NO_SUCH, () -> oak.tray(4, 4, 13));
+        Check.thrown("33: no tray -1", Check.NO_SUCH, () -> oak.tray(-1, 0, 0));
+        Check.thrown("33: sort 4", Check.ARGUMENT, () -> oak.tray(0, 4, 0));
+        Check.thrown("33: sort -1", Check.ARGUMENT, () -> oak.tray(0, -1, 0));
+        Check.thrown("33: 13 numbers", Check.ARGUMENT, () -> oak.tray(0, 0, 13));
+        Check.thrown("33: -1 numbers", Check.ARGUMENT, () -> oak.tray(0, 0, -1));
+        Check.thrown("33: it is missing still", Check.STATE, () -> oak.write(0, 0, 0));
+        oak.tray(3, 3, 12);
+        Check.same("33: the twelfth", oak.write(3, 11, 5), 5);
+        Check.thrown("33: tray 0 is missing still", Check.STATE, () -> oak.write(0, 0, 0));
+        Check.thrown("33: a wrong sort", Check.ARGUMENT, () -> oak.tray(3, 4, 0));
+        Check.same("33: changed nothing", oak.write(3, 10, 1L << 40), 1L << 40);
+        oak.tray(3, 0, 2);
+        Check.thrown("33: it is shorter now", Check.INDEX, () -> oak.write(3, 2, 0));
+        oak.tray(3, 0, 0);
+        Check.thrown("33: an empty one is not missing", Check.INDEX, () -> oak.write(3, 0, 0));
+    }
+
+    private static void write() {
+        BurntOak oak = new BurntOak();
+        for (int sort = 0; sort < 4; sort++) {
+            oak.tray(sort, sort, 3);
+        }
+        long[][] cut = {{127, 127, 127, 127, 127}, {128, -128, 128, 128, 128}, {-129, 127, -129, -129, -129}, {256, 0, 256, 256, 256},
+            {32768, 0, -32768, 32768, 32768}, {1L << 31, 0, 0, -1L << 31, 1L << 31}, {(1L << 32) + 5, 5, 5, 5, (1L << 32) + 5},
+            {-1, -1, -1, -1, -1}, {Long.MIN_VALUE, 0, 0, 0, Long.MIN_VALUE}, {Long.MAX_VALUE, -1, -1, -1, Long.MAX_VALUE}};
+        for (long[] c : cut) {
+            for (int sort = 0; sort < 4; sort++) {
+                Check.same("34: " + c[0] + " in sort " + sort, oak.write(sort, 2, c[0]), c[sort + 1]);
+            }
+        }
+        Check.thrown("34: no tray", Check.NO_SUCH, () -> oak.write(4, -1, 0));
+        Check.thrown("34: no place 3", Check.INDEX, () -> oak.write(0, 3, 0));
+        Check.thrown("34: no place -1", Check.INDEX, () -> oak.write(0, -1, 0));
+        BurntOak bare = new BurntOak();
+        Check.thrown("34: missing goes ahead of its place", Check.STATE, () -> bare.write(0, 99, 0));
+    }
+
+    private static void say() {
+        BurntOak oak = new BurntOak();
+        oak.place(0, 0);
+        Check.thrown("35: no tray", Check.NO_SUCH, () -> oak.say(4, 0, 10));
+        Check.thrown("35: no goal, and missing", Check.NO_SUCH, () -> oak.say(0, 1, 10));
+        Check.thrown("35: missing", Check.STATE, () -> oak.say(0, 0, 10));
+        oak.tray(0, 0, 11);
+        Check.thrown("35: more than 10", Check.ARGUMENT, () -> oak.say(0, 0, 0));
+        oak.tray(0, 0, 10);
+        Check.thrown("35: teller 10", Check.ARGUMENT, () -> oak.say(0, 0, 10));
+        Check.thrown("35: teller -1", Check.ARGUMENT, () -> oak.say(0, 0, -1));
+        oak.write(0, 9, 31);
+        Check.thrown("35: 31 is no word", Check.ARGUMENT, () -> oak.say(0, 0, 0));
+        oak.write(0, 9, -1);
+        Check.thrown("35: -1 is no word", Check.ARGUMENT, () -> oak.say(0, 0, 0));
+        oak.write(0, 9, 30);
+        Check.same("35: they changed nothing", oak.count(5), 0);
+        Check.same("35: ten words", oak.say(0, 0, 9), 0);
+        Check.same("17: ten sayings", oak.sayings(0), 10);
+        oak.tray(1, 3, 1);
+        oak.write(1, 0, 1L << 32);
+        Check.thrown("35: a long one is no word", Check.ARGUMENT, () -> oak.say(1, 0, 0));
+        oak.tray(1, 3, 0);
+        Check.same("35: no words", oak.say(1, 0, 0), 1);
+        Check.same("17: no sayings", oak.sayings(1), 0);
+        Town.feed(oak, "!");
+        oak.telling(1, 0, 0);
+        Town.feed(oak, "left;");
+        for (int n = 2; n < 12; n++) {
+            Check.same("35: telling " + n, oak.say(0, 0, 0), n);
+        }
+        Check.same("35: a thirteenth", oak.say(0, 0, 0), -1);
+        Check.thrown("35: full, and teller", Check.ARGUMENT, () -> oak.say(0, 0, 10));
+        Check.same("35: the tape stays", oak.count(7), 20);
+        Check.same("35: the fault stays", oak.fault(0), 1);
+    }
+
+    private static void sayWords() {
+        for (int word = 0; word <= 30; word++) {
+            String text = String.join(" ", Model.listed(word)) + ";";
+            for (int walker = 0; walker < 6; walker++) {
+                for (int state = 0; state < 44; state += 5) {
+                    Town town = new Town();
+                    town.oak.tray(2, 1, 1);
+                    town.oak.write(2, 0, word);
+                    int telling = town.oak.say(2, 0, 0);
+                    String what = "35: word " + word + " for " + walker + " from " + state;
+                    Check.same(what, Town.states(town.oak, telling, walker, state, 75), Town.led(text, walker, state, 75));
+                }
+            }
+        }
+        Town town = new Town();
+        town.oak.tray(0, 0, 2);
+        town.oak.write(0, 0, 3);
+        town.oak.write(0, 1, 27);
+        int telling = town.oak.say(0, 10, 4);
+        town.oak.write(0, 1, 2);
+        Check.same("35: on until oak; 1 left;", Town.states(town.oak, telling, 0, Town.EAST, 9), "36");
+        Check.so("35: with its goal", town.oak.right(telling, 0, Town.EAST, 9));
+        town.oak.went(0, telling, Town.EAST, 9, 10);
+        Check.same("35: and its teller", town.oak.told(4, false), 1);
+    }
+
+    private static void images() {
+        Town town = new Town();
+        BurntOak oak = town.oak;
+        Check.thrown("36: no image 3", Check.NO_SUCH, () -> oak.image(3));
+        Check.thrown("36: no image -1", Check.NO_SUCH, () -> oak.image(-1));
+        Check.thrown("37: no image 3", Check.NO_SUCH, () -> oak.restore(3));
+        Check.thrown("37: no image -1", Check.NO_SUCH, () -> oak.restore(-1));
+        Check.thrown("37: none was made", Check.STATE, () -> oak.restore(0));
+        String first = Town.all(oak);
+        oak.image(0);
+        Check.thrown("37: none was made there", Check.STATE, () -> oak.restore(1));
+        oak.place(1, 1);
+        oak.image(1);
+        String second = Town.all(oak);
+        oak.ends(true, 0, 5);
+        oak.restore(0);
+        Check.same("37: as in the first", Town.all(oak), first);
+        oak.restore(1);
+        Check.same("37: as in the second", Town.all(oak), second);
+        oak.restore(0);
+        oak.restore(0);
+        Check.same("37: the first is still there", Town.all(oak), first);
+        oak.place(2, 2);
+        oak.place(3, 3);
+        oak.image(0);
+        oak.restore(1);
+        oak.restore(0);
+        Check.same("36: a new one in its place", oak.count(0), 14);
+    }
+
+    private static void imagesLeaveOut() {
+        Town town = new Town();
+        BurntOak oak = town.oak;
+        oak.tray(0, 0, 1);
+        oak.image(2);
+        Town.tell(oak, "on 0;", 0, 0);
+        Town.feed(oak, "left;");
+        oak.tray(0, 0, 2);
+        oak.write(0, 1, 7);
+        oak.restore(2);
+        Check.same("37: the tape stays", oak.count(7), 20);
+        Check.same("37: the fault stays", oak.fault(0), 3);
+        Check.same("37: its place, too", oak.fault(1), 3);
+        Check.same("37: trays stay", oak.write(0, 1, 9), 9);
+        Check.same("37: the tape can be read", oak.telling(5, 0, 0), 0);
+    }
+
+    private static void imagesOfEverything() {
+        Town town = new Town();
+        BurntOak oak = town.oak;
+        int telling = town.tell("on until oak;", 2);
+        oak.went(0, telling, Town.EAST, 9, 2);
+        String before = Town.all(oak);
+        oak.image(1);
+        oak.way(0, 6, 0, 1, 0, 200);
+        oak.mark(1, 0, true, 0, 200);
+        oak.ends(true, 3, 7);
+        oak.ends(false, 0, 7);
+        oak.means(0, 0, 5);
+        oak.walker(oak.tongue(), 0, true, true, 1);
+        Town.tell(oak, "left or right;", 1, 7);
+        oak.went(0, 1, 0, 9, 2);
+        oak.place(0, 0);
+        Check.so("36: now all is otherwise", !Town.all(oak).equals(before));
+        oak.restore(1);
+        Check.same("37: all is as it was", Town.all(oak), before);
+        Check.same("37: ways end as they did", oak.ends(true, 3, 7), 200);
+        Check.same("37: marks end as they did", oak.ends(false, 0, 7), 200);
+        Check.same("37: names mean what they did", oak.means(0, 0, 5), 1);
+        Check.same("37: the next way", oak.way(0, 6, 0, 1, 0, 200), 11);
+        Check.same("37: the next tongue means", oak.means(oak.tongue(), 3, 0), 8);
+        oak.restore(1);
+        Check.same("37: and once more", Town.all(oak), before);
+    }
+
+    private static void count() {
+        Town town = new Town();
+        int telling = town.tell("left;", 0);
+        town.oak.went(0, telling, 0, 0, 0);
+        town.oak.went(0, telling, 0, 0, 0);
+        Town.feed(town.oak, "a");
+        int[] due = {12, 11, 5, 2, 6, 1, 2, 20};
+        for (int what = 0; what < 8; what++) {
+            Check.same("38: count(" + what + ")", town.oak.count(what), due[what]);
+        }
+        Check.same("38: count(8)", town.oak.count(8), -1);
+        Check.same("38: the least", town.oak.count(Integer.MIN_VALUE), -1);
+    }
+}
