@@ -32,6 +32,7 @@ public final class BurntOak {
     private static final int MOST_BYTES = 200;
     private static final int MOST_FOUND = 3;
     private static final int LISTED = 31;
+    private static final int ALL_LISTED = Integer.MAX_VALUE;
     private static final int TRAYS = 4;
     private static final int MOST_ON_TRAY = 12;
     private static final int SORTS = 4;
@@ -979,6 +980,7 @@ public final class BurntOak {
         final Land land;
         private int first = 0;
         private int last = NONE;
+        private boolean stale = true;
         long ways;
         final long[] paths = new long[2];
         private final long[] outs = new long[2 * MOST_PLACES];
@@ -996,6 +998,7 @@ public final class BurntOak {
         void forget() {
             first = 0;
             last = NONE;
+            stale = true;
         }
 
         boolean isPreparedFor(int year) {
@@ -1008,12 +1011,18 @@ public final class BurntOak {
             }
             first = 0;
             last = LAST_YEAR;
-            clear();
+            long there = 0;
             for (int w = 0; w < land.ways; w++) {
                 if (isThere(land.wayFrom[w], land.wayTo[w], year)) {
-                    addWay(w);
+                    there |= 1L << w;
                 }
             }
+            // Where only marks differ, what was found out about ways out holds on.
+            if (stale || there != ways) {
+                layWays(there);
+            }
+            Arrays.fill(kindPlaces, 0L);
+            Arrays.fill(tallPlaces, 0L);
             for (int m = 0; m < land.marks; m++) {
                 if (isThere(land.markFrom[m], land.markTo[m], year)) {
                     addMark(land.markKind[m], 1L << land.markPlace[m], land.markTall[m]);
@@ -1021,15 +1030,19 @@ public final class BurntOak {
             }
         }
 
-        private void clear() {
-            ways = 0;
+        private void layWays(long there) {
+            stale = false;
+            ways = there;
             Arrays.fill(paths, 0L);
             Arrays.fill(outs, 0L);
             Arrays.fill(neighbours, 0L);
-            Arrays.fill(kindPlaces, 0L);
-            Arrays.fill(tallPlaces, 0L);
             for (int s = 0; s < MOST_STATES; s++) {
                 known[s] = false;
+            }
+            for (int w = 0; w < land.ways; w++) {
+                if (isIn(there, w)) {
+                    addWay(w);
+                }
             }
         }
 
@@ -1049,7 +1062,6 @@ public final class BurntOak {
         }
 
         private void addWay(int w) {
-            ways |= 1L << w;
             int a = land.spots[4 * w + 1];
             int b = land.spots[4 * w];
             neighbours[a] |= 1L << b;
@@ -1239,26 +1251,30 @@ public final class BurntOak {
         private int nextMany;
         private int[] nextArrows = new int[MOST_ARROWS];
         private long[] nextTags = new long[MOST_ARROWS];
+        private int[] starts = new int[1];
         private int start;
+        private int startsEnd;
         private long lengths;
 
         Steps(YearMap map) {
             this.map = map;
         }
 
-        /** From a STATE on; where lengths isn't 0, tags are LENGTHS gone, and only these are followed. */
-        void begin(int state, long lengthsFollowed) {
+        /** From some STATES of a row on; where lengths isn't 0, tags are LENGTHS gone, and only these are followed. */
+        void begin(int[] states, int first, int end, long lengthsFollowed) {
             clearNow();
-            start = state;
+            starts = states;
+            start = first;
+            startsEnd = end;
             lengths = lengthsFollowed;
         }
 
         /** ON once more: whether there are any. */
         boolean go() {
-            if (start != NONE) {
-                carry(map.look(start), 1L);
-                start = NONE;
+            for (int n = start; n < startsEnd; n++) {
+                carry(map.look(starts[n]), 1L);
             }
+            startsEnd = 0;
             for (int n = 0; n < many; n++) {
                 carry(map.look(2 * arrows[n]), tags[arrows[n]]);
             }
@@ -1351,42 +1367,43 @@ public final class BurntOak {
             return map.seenPlaces(kinds[who * NAMES + name]);
         }
 
-        /** Adds the STATES to which a WORD leads from one. */
-        void lead(int word, int from, States to) {
+        /** Adds the STATES to which a WORD leads from the first so many of a row. */
+        void lead(int word, int[] from, int many, States to) {
             int number = word >> 4 & 31;
             int name = word >> 9;
             switch (word & 15) {
                 case ON_TIMES:
-                    goTimes(number, from, to);
+                    goTimes(number, from, many, to);
                     break;
                 case UNTIL:
-                    goUntil(placesWith(name), from, false, to);
+                    goUntil(placesWith(name), from, many, false, to);
                     break;
                 case PAST:
-                    goUntil(placesWith(name), from, true, to);
+                    goUntil(placesWith(name), from, many, true, to);
                     break;
                 case FAR:
-                    goFar(number, from, to);
+                    goFar(number, from, many, to);
                     break;
                 case SEE:
-                    stayIf(isIn(seenPlaces(name), map.land.spots[from]), from, to);
+                    staySeeing(seenPlaces(name), from, many, to);
                     break;
                 case OVER:
-                    stayIf(comesTo(placesWith(name), from), from, to);
+                    stayAheadOf(placesWith(name), from, many, to);
                     break;
                 case LOOSE:
-                    stayIf(true, from, to);
+                    staySeeing(-1L, from, many, to);
                     break;
                 case BACK:
-                    goBack(from, to);
+                    goBack(from, many, to);
                     break;
                 case LEFT:
                 case RIGHT:
-                    turn(sideOf(word & 15, LEFT), from, to);
+                    turn(sideOf(word & 15, LEFT), from, many, to);
                     break;
                 case NTH_LEFT:
                 case NTH_RIGHT:
-                    turnAt(number, sideOf(word & 15, NTH_LEFT), name == NO_NAME ? 0 : placesWith(name), from, to);
+                    steps.begin(from, 0, many, 0);
+                    turnAt(number, sideOf(word & 15, NTH_LEFT), name == NO_NAME ? 0 : placesWith(name), to);
                     break;
                 default:
                     break;
@@ -1398,17 +1415,11 @@ public final class BurntOak {
             return (does == left) == folk.turns[who] ? 1 : 0;
         }
 
-        private void stayIf(boolean stays, int from, States to) {
-            if (stays) {
-                to.add(from);
-            }
-        }
-
-        private void goTimes(int times, int from, States to) {
+        private void goTimes(int times, int[] from, int many, States to) {
             if (times > folk.patience[who]) {
                 return;
             }
-            steps.begin(from, 0);
+            steps.begin(from, 0, many, 0);
             int gone = 0;
             while (gone < times && steps.go()) {
                 gone++;
@@ -1418,11 +1429,11 @@ public final class BurntOak {
             }
         }
 
-        private void goUntil(long places, int from, boolean past, States to) {
+        private void goUntil(long places, int[] from, int many, boolean past, States to) {
             if (places == 0) {
                 return;
             }
-            steps.begin(from, 0);
+            steps.begin(from, 0, many, 0);
             for (int gone = 0; gone < folk.patience[who] && steps.go(); gone++) {
                 for (int n = 0; n < steps.many; n++) {
                     int arrow = steps.arrows[n];
@@ -1440,10 +1451,10 @@ public final class BurntOak {
             }
         }
 
-        private void goFar(int number, int from, States to) {
+        private void goFar(int number, int[] from, int many, States to) {
             long notTooFar = (1L << (2 * number + 1)) - 1;
             long farEnough = notTooFar & -(1L << (number + 1) / 2);
-            steps.begin(from, notTooFar);
+            steps.begin(from, 0, many, notTooFar);
             for (int gone = 0; gone < folk.patience[who] && steps.go(); gone++) {
                 for (int n = 0; n < steps.many; n++) {
                     int arrow = steps.arrows[n];
@@ -1454,11 +1465,24 @@ public final class BurntOak {
             }
         }
 
-        private boolean comesTo(long places, int from) {
-            if (places == 0) {
-                return false;
+        private void staySeeing(long places, int[] from, int many, States to) {
+            for (int n = 0; n < many; n++) {
+                if (isIn(places, map.land.spots[from[n]])) {
+                    to.add(from[n]);
+                }
             }
-            steps.begin(from, 0);
+        }
+
+        private void stayAheadOf(long places, int[] from, int many, States to) {
+            for (int n = 0; n < many; n++) {
+                steps.begin(from, n, n + 1, 0);
+                if (comesTo(places)) {
+                    to.add(from[n]);
+                }
+            }
+        }
+
+        private boolean comesTo(long places) {
             for (int gone = 0; gone < 3 && steps.go(); gone++) {
                 for (int n = 0; n < steps.many; n++) {
                     if (isIn(places, map.land.spots[2 * steps.arrows[n]])) {
@@ -1469,23 +1493,26 @@ public final class BurntOak {
             return false;
         }
 
-        private void goBack(int from, States to) {
-            if ((from & 1) == 0 && isIn(map.ways, from >> 2)) {
-                to.add(from ^ 2);
+        private void goBack(int[] from, int many, States to) {
+            for (int n = 0; n < many; n++) {
+                if ((from[n] & 1) == 0 && isIn(map.ways, from[n] >> 2)) {
+                    to.add(from[n] ^ 2);
+                }
             }
         }
 
-        private void turn(int side, int from, States to) {
-            int row = map.look(from) + 2 * side;
-            to.addArrows(map.rows[row], map.rows[row + 1]);
+        private void turn(int side, int[] from, int many, States to) {
+            for (int n = 0; n < many; n++) {
+                int row = map.look(from[n]) + 2 * side;
+                to.addArrows(map.rows[row], map.rows[row + 1]);
+            }
         }
 
         /** At the N-th PLACE with a way to that side; PLACES that are passed over don't count. */
-        private void turnAt(int number, int side, long passedOver, int from, States to) {
+        private void turnAt(int number, int side, long passedOver, States to) {
             boolean allCount = folk.paths[who];
             long low = allCount ? -1L : ~map.paths[0];
             long high = allCount ? -1L : ~map.paths[1];
-            steps.begin(from, 0);
             for (int gone = 0; gone < folk.patience[who] && steps.go(); gone++) {
                 for (int n = 0; n < steps.many; n++) {
                     int arrow = steps.arrows[n];
@@ -1513,9 +1540,7 @@ public final class BurntOak {
                 next.clear();
                 int many = now.list(list);
                 for (int w = 0; w < MOST_WORDS && book.words[base + w] != 0; w++) {
-                    for (int n = 0; n < many; n++) {
-                        lead(book.words[base + w], list[n], next);
-                    }
+                    lead(book.words[base + w], list, many, next);
                 }
                 States free = now;
                 now = next;
@@ -1543,6 +1568,7 @@ public final class BurntOak {
         private final Walk walk;
         private int[] here = new int[MOST_STATES];
         private int[] there = new int[MOST_STATES];
+        private final int[] one = new int[1];
         private final States target = new States();
         private final int[] list = new int[MOST_STATES];
         private final int[] firstAt = new int[MOST_PLACES];
@@ -1583,9 +1609,10 @@ public final class BurntOak {
                     if (here[state] == 0) {
                         continue;
                     }
+                    one[0] = state;
                     target.clear();
                     for (int w = 0; w < MOST_WORDS && walk.book.words[base + w] != 0; w++) {
-                        walk.lead(walk.book.words[base + w], state, target);
+                        walk.lead(walk.book.words[base + w], one, 1, target);
                     }
                     share(here[state], target, there);
                 }
@@ -1636,12 +1663,13 @@ public final class BurntOak {
         final int[] found = new int[MOST_FOUND];
         /** By how many WORDS lie behind, by WALKER: where he is then. */
         private final States[] sets = new States[MOST_FOUND * MOST_WALKERS];
-        /** By WALKER, WORD and quarter: STATES looked at; of these, those led to the goal alone, or astray. */
-        private final long[] judged = new long[MOST_WALKERS * LISTED * States.QUARTERS];
-        private final long[] leading = new long[MOST_WALKERS * LISTED * States.QUARTERS];
-        private final long[] astray = new long[MOST_WALKERS * LISTED * States.QUARTERS];
+        /** By WALKER and STATE, sets of WORDS: those tried; of these, those that lead to the goal alone, or astray. */
+        private final int[] tried = new int[MOST_WALKERS * MOST_STATES];
+        private final int[] leading = new int[MOST_WALKERS * MOST_STATES];
+        private final int[] astray = new int[MOST_WALKERS * MOST_STATES];
         private final States target = new States();
         private final int[] list = new int[MOST_STATES];
+        private final int[] one = new int[1];
 
         Finder(Walk walk) {
             this.walk = walk;
@@ -1653,12 +1681,16 @@ public final class BurntOak {
         void begin(int set, int state, int place) {
             walkers = set;
             goal = 1L << place;
-            Arrays.fill(judged, 0L);
-            Arrays.fill(leading, 0L);
-            Arrays.fill(astray, 0L);
             for (int walker = 0; walker < MOST_WALKERS; walker++) {
-                sets[walker].clear();
-                sets[walker].add(state);
+                if (isIn(set, walker)) {
+                    int first = walker * MOST_STATES;
+                    int end = first + 4 * walk.map.land.ways;
+                    Arrays.fill(tried, first, end, 0);
+                    Arrays.fill(leading, first, end, 0);
+                    Arrays.fill(astray, first, end, 0);
+                    sets[walker].clear();
+                    sets[walker].add(state);
+                }
             }
         }
 
@@ -1667,59 +1699,70 @@ public final class BurntOak {
             if (behind < 0 || more < 1 || behind + more > MOST_FOUND) {
                 return false;
             }
-            for (int word = 0; word < LISTED; word++) {
-                boolean fits = true;
-                for (int walker = 0; walker < MOST_WALKERS && fits; walker++) {
+            int words = ALL_LISTED;
+            if (more == 1) {
+                for (int walker = 0; walker < MOST_WALKERS && words != 0; walker++) {
                     if (isIn(walkers, walker)) {
-                        walk.become(walker);
-                        fits = more == 1 ? arrives(word, walker, behind) : goesOn(word, walker, behind);
+                        words = arriving(words, walker, behind);
                     }
                 }
+                found[behind] = words == 0 ? NONE : lowest(words);
+                return words != 0;
+            }
+            for (int word = 0; word < LISTED; word++) {
                 found[behind] = word;
-                if (fits && (more == 1 || search(behind + 1, more - 1))) {
+                if (allGoOn(word, behind) && search(behind + 1, more - 1)) {
                     return true;
                 }
             }
             return false;
         }
 
-        private boolean goesOn(int word, int walker, int behind) {
-            States to = sets[(behind + 1) * MOST_WALKERS + walker];
-            to.clear();
-            int many = sets[behind * MOST_WALKERS + walker].list(list);
-            for (int n = 0; n < many; n++) {
-                walk.lead(listedWord(word), list[n], to);
+        private boolean allGoOn(int word, int behind) {
+            for (int walker = 0; walker < MOST_WALKERS; walker++) {
+                if (isIn(walkers, walker)) {
+                    States to = sets[(behind + 1) * MOST_WALKERS + walker];
+                    to.clear();
+                    int many = sets[behind * MOST_WALKERS + walker].list(list);
+                    walk.become(walker);
+                    walk.lead(listedWord(word), list, many, to);
+                    if (to.isEmpty()) {
+                        return false;
+                    }
+                }
             }
-            return !to.isEmpty();
+            return true;
         }
 
-        private boolean arrives(int word, int walker, int behind) {
-            States from = sets[behind * MOST_WALKERS + walker];
-            int base = (walker * LISTED + word) * States.QUARTERS;
-            boolean some = false;
-            for (int q = 0; q < States.QUARTERS; q++) {
-                long fresh = from.quarters[q] & ~judged[base + q];
-                for (int rest = Long.bitCount(fresh); rest > 0; rest--) {
+        /** Those of a set of WORDS that lead a WALKER from where he is to the goal alone. */
+        private int arriving(int words, int walker, int behind) {
+            walk.become(walker);
+            int many = sets[behind * MOST_WALKERS + walker].list(list);
+            int left = words;
+            int some = 0;
+            for (int n = 0; n < many && left != 0; n++) {
+                int at = walker * MOST_STATES + list[n];
+                one[0] = list[n];
+                int fresh = left & ~tried[at];
+                for (int rest = Integer.bitCount(fresh); rest > 0; rest--) {
                     target.clear();
-                    walk.lead(listedWord(word), States.stateOf(q, lowest(fresh)), target);
-                    judge(base + q, fresh & -fresh);
+                    walk.lead(listedWord(lowest(fresh)), one, 1, target);
+                    judge(at, fresh & -fresh);
                     fresh &= fresh - 1;
                 }
-                if ((from.quarters[q] & astray[base + q]) != 0) {
-                    return false;
-                }
-                some |= (from.quarters[q] & leading[base + q]) != 0;
+                left &= ~astray[at];
+                some |= leading[at];
             }
-            return some;
+            return left & some;
         }
 
-        private void judge(int at, long bit) {
+        private void judge(int at, int word) {
             long places = walk.map.placesOf(target);
-            judged[at] |= bit;
+            tried[at] |= word;
             if (places == goal) {
-                leading[at] |= bit;
+                leading[at] |= word;
             } else if (places != 0) {
-                astray[at] |= bit;
+                astray[at] |= word;
             }
         }
     }

@@ -10,7 +10,7 @@ public final class LanguageTest {
     private static final Path CLASS = Path.of("src/main/java/BurntOak.java");
     private static final Set<String> THROWN = Set.of("NoSuchElementException", "IllegalArgumentException", "IllegalStateException",
             "IndexOutOfBoundsException");
-    private static final Set<String> OTHERS = Set.of("Math.min", "Math.max", "Math.abs", "Long.bitCount", "Arrays.fill", "System.arraycopy");
+    private static final Set<String> OTHERS = Set.of("Math.min", "Math.max", "Math.abs", "Long.bitCount", "Integer.bitCount", "Arrays.fill", "System.arraycopy");
 
     private LanguageTest() {
     }
