@@ -32,7 +32,7 @@ public final class BurntOak {
     private static final int MOST_BYTES = 200;
     private static final int MOST_FOUND = 3;
     private static final int LISTED = 31;
-    private static final int ALL_LISTED = Integer.MAX_VALUE;
+    private static final int ALL_LISTED = (int) ((1L << LISTED) - 1);
     private static final int TRAYS = 4;
     private static final int MOST_ON_TRAY = 12;
     private static final int SORTS = 4;
