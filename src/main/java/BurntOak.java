@@ -15,6 +15,7 @@ public final class BurntOak {
     private static final int NAMES = 12;
     private static final int TELLERS = 10;
     private static final int MOST_PATIENCE = 20;
+    private static final int LOOK_AHEAD = 3;
     private static final int WHOLE = 1_000_000;
 
     private static final int MOST_PLACES = 40;
@@ -1475,22 +1476,17 @@ public final class BurntOak {
 
         private void stayAheadOf(long places, int[] from, int many, States to) {
             for (int n = 0; n < many; n++) {
+                boolean ahead = false;
                 steps.begin(from, n, n + 1, 0);
-                if (comesTo(places)) {
+                for (int gone = 0; gone < LOOK_AHEAD && !ahead && steps.go(); gone++) {
+                    for (int m = 0; m < steps.many; m++) {
+                        ahead |= isIn(places, map.land.spots[2 * steps.arrows[m]]);
+                    }
+                }
+                if (ahead) {
                     to.add(from[n]);
                 }
             }
-        }
-
-        private boolean comesTo(long places) {
-            for (int gone = 0; gone < 3 && steps.go(); gone++) {
-                for (int n = 0; n < steps.many; n++) {
-                    if (isIn(places, map.land.spots[2 * steps.arrows[n]])) {
-                        return true;
-                    }
-                }
-            }
-            return false;
         }
 
         private void goBack(int[] from, int many, States to) {
@@ -1695,7 +1691,7 @@ public final class BurntOak {
         }
 
         /** The least row of so many WORDS more that leads all of them to the goal: whether there is one. */
-        boolean search(int behind, int more) {
+        private boolean search(int behind, int more) {
             if (behind < 0 || more < 1 || behind + more > MOST_FOUND) {
                 return false;
             }

@@ -7,6 +7,7 @@ public final class RecordsTest {
         went();
         learned();
         learnedByYears();
+        learnedBySeeing();
         told();
         teller();
         Check.finish(RecordsTest.class);
@@ -75,6 +76,18 @@ public final class RecordsTest {
         Check.same("30: inn or stone", oak.learned(3, 7), 1 << 6 | 1 << 8);
         oak.ends(false, 4, 59);
         Check.same("30: by what is known of the ground now", oak.learned(3, 7), 1 << 8);
+    }
+
+    private static void learnedBySeeing() {
+        Town town = new Town();
+        BurntOak oak = town.oak;
+        town.tell("on 4;see gate;", 4);
+        town.tell("on 1 or on 2 or on 4;over gate;see stone or see gate;", 4);
+        oak.went(1, 0, Town.EAST, 9, 4);
+        Check.same("30: the oak there, the tall pond and the tall church beside", oak.learned(1, 7), 1 | 1 << 4 | 1 << 5);
+        oak.went(1, 1, Town.EAST, 9, 4);
+        Check.same("30: of these only the church is ahead, too", oak.learned(1, 7), 1 << 5);
+        Check.same("30: a stone may be anything, if a gate is none", oak.learned(1, 8), 0);
     }
 
     private static void told() {

@@ -67,7 +67,7 @@ public final class TextTest {
     private static void firstFaults() {
         String[][] bad = {{"on 1", "2 at 4"}, {"on 1 ", "2 at 5"}, {"on", "2 at 2"}, {"on;", "2 at 2"}, {"on left;", "2 at 3"},
             {"on 0;", "3 at 3"}, {"on 00;", "3 at 3"}, {"on 21;", "3 at 3"}, {"on 99", "3 at 3"}, {"on 100;", "1 at 3"},
-            {"on 001;", "1 at 3"}, {";", "2 at 0"}, {"on 1;;", "2 at 5"}, {"oak;", "2 at 0"}, {"foo;", "2 at 0"}, {"onn 1;", "2 at 0"},
+            {"on 001;", "1 at 3"}, {";", "2 at 0"}, {"on 1;;", "2 at 5"}, {"oak;", "2 at 0"}, {"foo;", "2 at 0"}, {"onn 1;", "2 at 0"}, {"onz 1;", "2 at 0"},
             {"churches;", "2 at 0"}, {"on until;", "2 at 8"}, {"on until oaks;", "2 at 9"}, {"on until bridges;", "2 at 9"},
             {"on until oa;", "2 at 9"}, {"onuntil oak;", "2 at 0"}, {"until oak;", "2 at 0"}, {"past 1;", "2 at 5"}, {"far oak;", "2 at 4"},
             {"far 0;", "3 at 4"}, {"far;", "2 at 3"}, {"see;", "2 at 3"}, {"over left;", "2 at 5"}, {"loose 1;", "2 at 6"},

@@ -114,16 +114,21 @@ final class Town {
             for (int mark = 0; mark < oak.count(2); mark++) {
                 all.append(' ').append(oak.worth(mark, (1 << oak.count(4)) - 1, year, 0)).append(oak.worth(mark, 0, year, 1));
             }
-            for (int telling = 0; telling < oak.count(5) && oak.count(4) > 0 && oak.count(1) > 0; telling++) {
-                all.append('\n').append(oak.sayings(telling)).append(oak.end(telling, 0, 1, year, -1));
-                all.append(oak.right(telling, 0, 1, year)).append(oak.holds(telling, 0, 1, year));
+            for (int telling = 0; telling < oak.count(5) && oak.count(1) > 0; telling++) {
+                all.append('\n').append(oak.sayings(telling));
+                for (int walker = 0; walker < oak.count(4); walker++) {
+                    all.append(' ').append(oak.end(telling, walker, 1, year, -1)).append(oak.end(telling, walker, 1, year, 0));
+                    all.append(oak.right(telling, walker, 1, year)).append(oak.holds(telling, walker, 1, year));
+                }
             }
         }
         for (int teller = 0; teller < 10; teller++) {
             all.append(oak.told(teller, true)).append(oak.told(teller, false)).append(' ');
         }
         for (int walker = 0; walker < oak.count(4); walker++) {
-            all.append(oak.learned(walker, 0)).append(' ');
+            for (int name = 0; name < 12; name++) {
+                all.append(oak.learned(walker, name)).append(' ');
+            }
         }
         return all.toString();
     }

@@ -11,6 +11,8 @@ public final class TraysTest {
         images();
         imagesLeaveOut();
         imagesOfEverything();
+        imagesOfTwoWorlds();
+        imagesOfTellings();
         count();
         Check.finish(TraysTest.class);
     }
@@ -191,6 +193,67 @@ public final class TraysTest {
         Check.same("37: the next tongue means", oak.means(oak.tongue(), 3, 0), 8);
         oak.restore(1);
         Check.same("37: and once more", Town.all(oak), before);
+    }
+
+    /** Two worlds of like size in which each number is another, told into one object by turns. */
+    private static void imagesOfTwoWorlds() {
+        BurntOak oak = new BurntOak();
+        oak.image(0);
+        world(oak, 0);
+        String first = Town.all(oak);
+        oak.image(1);
+        oak.restore(0);
+        world(oak, 1);
+        String second = Town.all(oak);
+        oak.image(2);
+        Check.so("36: they differ", !first.equals(second));
+        oak.restore(1);
+        Check.same("37: the first world", Town.all(oak), first);
+        Check.same("37: its place 3 is where it was", oak.way(3, 0, 0, 1, 0, 200), 4);
+        Check.same("37: who comes from there to 0 has 1 to the left", oak.out(16, 0, 9), 1);
+        oak.restore(2);
+        Check.same("37: the second world", Town.all(oak), second);
+        oak.image(0);
+        oak.restore(1);
+        oak.restore(0);
+        Check.same("36: made again over another", Town.all(oak), second);
+    }
+
+    private static void world(BurntOak oak, int n) {
+        int[][][] places = {{{10, 50}, {20, 50}, {30, 50}, {20, 60}, {20, 40}}, {{10, 50}, {20, 50}, {20, 40}, {12, 44}, {30, 55}}};
+        for (int[] p : places[n]) {
+            oak.place(p[0], p[1]);
+        }
+        for (int w = 0; w < 4; w++) {
+            oak.way(w == 0 ? 0 : 1, w + 1, n == 0 ? 2 : w % 2, 2 + 3 * n + w, 10 * n, 200 - 10 * n);
+        }
+        for (int m = 0; m < 3; m++) {
+            oak.mark((m + n) % 5, m + 3 * n, n == 0, 5 * n, 150 - 20 * n);
+        }
+        oak.tongue();
+        oak.tongue();
+        oak.means(n, 4, 7);
+        oak.walker(n, 4095 - n, n == 0, n == 0, 3 + n);
+        oak.walker(1 - n, 4095 - 2 * n, n != 0, n != 0, 4 - 2 * n);
+        Town.tell(oak, n == 0 ? "far 6;" : "1 left;on 1 or loose;", n, n);
+        Town.tell(oak, n == 0 ? "1 right or 1 left;see oak or see pond or loose;" : "on 3 or on 1;", 2 * n, 4 + n);
+        oak.went(n, n, 1, 9 + 50 * n, 2 - n);
+        oak.went(1 - n, 1, 3 - 2 * n, 20 + n, 1 + n);
+    }
+
+    private static void imagesOfTellings() {
+        Town town = new Town();
+        BurntOak oak = town.oak;
+        oak.image(0);
+        town.tell("left or right or on 1 or loose;left or loose;", 3);
+        oak.restore(0);
+        oak.tray(0, 0, 1);
+        oak.write(0, 0, 1);
+        Check.same("35: in the place of one that is no more", oak.say(0, 3, 0), 0);
+        Check.same("35: no word of that is left", Town.states(oak, 0, 0, 4, 9), "24");
+        oak.restore(0);
+        town.tell("left;", 3);
+        Check.same("15: no word of that is left", Town.states(oak, 0, 0, 4, 9), "24");
     }
 
     private static void count() {
