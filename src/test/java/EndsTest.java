@@ -9,6 +9,7 @@ public final class EndsTest {
         right();
         odds();
         oddsOverSayings();
+        oddsOfFewParts();
         parts();
         hangs();
         years();
@@ -122,6 +123,32 @@ public final class EndsTest {
             sum += oak.odds(3, 0, Town.EAST, 9, p);
         }
         Check.same("22: all together", sum, 1000000);
+    }
+
+    /** 38 ways ahead, of which only the first leads round and back: what comes round grows less, down to one part. */
+    private static void oddsOfFewParts() {
+        BurntOak oak = new BurntOak();
+        oak.place(50, 10);
+        oak.place(50, 0);
+        for (int n = 0; n < 38; n++) {
+            oak.place(2 * n, 50);
+            oak.way(0, 2 + n, 0, 1, 0, 200);
+        }
+        oak.way(2, 1, 0, 1, 0, 200);
+        oak.way(1, 0, 0, 1, 0, 200);
+        oak.tongue();
+        oak.walker(0, 0, false, false, 2);
+        StringBuilder text = new StringBuilder();
+        int[] due = {26316, 693, 19, 1, 1};
+        for (int round = 0; round < 5; round++) {
+            text.append("left or right or on 1;");
+            int forks = Town.tell(oak, text.toString(), 0, 0);
+            Check.same("22: to the last way in round " + round, oak.odds(forks, 0, 156, 0, 39),
+                    round == 0 ? 26315 : round == 1 ? 692 : round == 2 ? 18 : 0);
+            text.append("on 2;");
+            int back = Town.tell(oak, text.toString(), 0, 0);
+            Check.same("22: round and back in round " + round, oak.odds(back, 0, 156, 0, 0), due[round]);
+        }
     }
 
     private static void parts() {

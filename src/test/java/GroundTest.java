@@ -15,6 +15,7 @@ public final class GroundTest {
         out();
         on();
         onIsExact();
+        nearOnes();
         onAndOutByYears();
         Check.finish(GroundTest.class);
     }
@@ -256,6 +257,25 @@ public final class GroundTest {
         Check.same("8: and it alone", behind.on(0, 0, -1), 1);
         Check.same("8: not come, the way behind one is a way out", behind.out(3, 2, 0), 1);
         Check.same("8: facing 0 from 1, the own arrow", behind.on(3, 0, 0), 2);
+    }
+
+    /** The least that CROSS and turns can differ by. */
+    private static void nearOnes() {
+        BurntOak oak = new BurntOak();
+        int[][] places = {{10, 10}, {11, 10}, {11, 11}, {12, 10}, {12, 11}, {12, 9}};
+        for (int[] p : places) {
+            oak.place(p[0], p[1]);
+        }
+        oak.way(0, 1, 0, 1, 0, 200);
+        oak.way(1, 2, 0, 1, 0, 200);
+        oak.way(1, 3, 0, 1, 0, 200);
+        Check.same("8: straight, behind one across", oak.on(0, 0, -1), 1);
+        Check.same("8: straight", oak.on(0, 0, 0), 8);
+        oak.way(1, 4, 0, 1, 50, 50);
+        Check.same("7: CROSS is 1", oak.out(0, 0, 50), 2);
+        oak.way(1, 5, 0, 1, 60, 60);
+        Check.same("7: CROSS is -1", oak.out(0, 1, 60), 1);
+        Check.same("7: CROSS is 0", oak.out(0, 2, 60), 1);
     }
 
     private static void onAndOutByYears() {

@@ -28,13 +28,14 @@ public final class RandomRunsTest {
 
     private RandomRunsTest(int run) {
         this.run = run;
-        this.random = new Random(run);
+        // Scattered, for what neighbouring seeds draw first is much alike.
+        this.random = new Random(run * 0x9E3779B97F4A7C15L);
         this.crowded = random.nextInt(4) == 0;
         this.grid = 2 + random.nextInt(6);
     }
 
     public static void main(String[] args) throws Exception {
-        int runs = args.length > 0 ? Integer.parseInt(args[0]) : 150;
+        int runs = args.length > 0 ? Integer.parseInt(args[0]) : 250;
         int first = args.length > 1 ? Integer.parseInt(args[1]) : 1;
         for (Method m : BurntOak.class.getDeclaredMethods()) {
             if (java.lang.reflect.Modifier.isPublic(m.getModifiers())) {
@@ -56,6 +57,9 @@ public final class RandomRunsTest {
     }
 
     private void go(Map<String, Integer> tally) throws Exception {
+        if (!crowded && random.nextInt(3) == 0) {
+            settleElsewhere();
+        }
         settle();
         while (left > 0 && !differs) {
             ask();
@@ -123,6 +127,17 @@ public final class RandomRunsTest {
         for (int n = 0; n < tellings; n++) {
             tell();
         }
+    }
+
+    /** Another world, which stays in image 1; nothing stays in image 0. */
+    private void settleElsewhere() throws Exception {
+        call("image", 0);
+        settle();
+        for (int n = 0; n < 20; n++) {
+            ask();
+        }
+        call("image", 1);
+        call("restore", 0);
     }
 
     private int coordinate() {

@@ -20,10 +20,21 @@ final class Town {
     final BurntOak oak = new BurntOak();
 
     Town() {
+        this(0);
+    }
+
+    /** With so many ways elsewhere told first: all ways of the town have numbers so much higher. */
+    Town(int elsewhere) {
         int[][] places = {{10, 50}, {20, 50}, {30, 50}, {40, 50}, {50, 50}, {60, 50}, {20, 60}, {30, 60}, {30, 40},
             {40, 40}, {50, 60}, {50, 40}};
         for (int[] p : places) {
             oak.place(p[0], p[1]);
+        }
+        for (int n = 0; n < 28 && elsewhere > 0; n++) {
+            oak.place(n, 0);
+        }
+        for (int n = 0; n < elsewhere; n++) {
+            oak.way(12 + n % 28, 12 + (n + 1 + n / 28) % 28, n % 3, 1 + n, 0, 200);
         }
         int[][] ways = {{0, 1, 0, 3}, {1, 2, 0, 4}, {2, 3, 0, 2}, {3, 4, 0, 5}, {4, 5, 0, 1}, {1, 6, 2, 2}, {2, 7, 1, 2},
             {2, 8, 1, 2}, {3, 9, 2, 2}, {4, 10, 0, 2}, {4, 11, 0, 2}};
@@ -70,12 +81,21 @@ final class Town {
 
     /** The states to which a text leads, told anew in a town of its own: "0 4 8"; "" for none. */
     static String led(String text, int walker, int state, int year) {
-        Town town = new Town();
+        return led(text, walker, state, year, 0);
+    }
+
+    /** So, with so many ways told first; states are still numbered as if there were none. */
+    static String led(String text, int walker, int state, int year, int elsewhere) {
+        Town town = new Town(elsewhere);
         int telling = town.tell(text, 0);
         if (telling < 0) {
             return "fault " + telling;
         }
-        return states(town.oak, telling, walker, state, year);
+        StringBuilder all = new StringBuilder();
+        for (String s : states(town.oak, telling, walker, state + 4 * elsewhere, year).split(" ")) {
+            all.append(all.length() == 0 ? "" : " ").append(s.isEmpty() ? "" : Integer.parseInt(s) - 4 * elsewhere);
+        }
+        return all.toString();
     }
 
     static String states(BurntOak oak, int telling, int walker, int state, int year) {
@@ -117,8 +137,10 @@ final class Town {
             for (int telling = 0; telling < oak.count(5) && oak.count(1) > 0; telling++) {
                 all.append('\n').append(oak.sayings(telling));
                 for (int walker = 0; walker < oak.count(4); walker++) {
-                    all.append(' ').append(oak.end(telling, walker, 1, year, -1)).append(oak.end(telling, walker, 1, year, 0));
-                    all.append(oak.right(telling, walker, 1, year)).append(oak.holds(telling, walker, 1, year));
+                    for (int state = 0; state < 4 * oak.count(1); state += 3) {
+                        all.append(' ').append(oak.end(telling, walker, state, year, -1)).append(oak.end(telling, walker, state, year, 0));
+                        all.append(oak.right(telling, walker, state, year)).append(oak.holds(telling, walker, state, year));
+                    }
                 }
             }
         }

@@ -13,6 +13,7 @@ public final class TraysTest {
         imagesOfEverything();
         imagesOfTwoWorlds();
         imagesOfTellings();
+        imagesOfRecords();
         count();
         Check.finish(TraysTest.class);
     }
@@ -211,6 +212,8 @@ public final class TraysTest {
         Check.same("37: the first world", Town.all(oak), first);
         Check.same("37: its place 3 is where it was", oak.way(3, 0, 0, 1, 0, 200), 4);
         Check.same("37: who comes from there to 0 has 1 to the left", oak.out(16, 0, 9), 1);
+        Check.same("37: its place 4 is where it was", oak.way(4, 3, 0, 1, 0, 200), 5);
+        Check.same("37: who comes from there to 3 has 0 to the left, 1 straight behind", oak.out(20, 0, 9), 1);
         oak.restore(2);
         Check.same("37: the second world", Town.all(oak), second);
         oak.image(0);
@@ -239,6 +242,26 @@ public final class TraysTest {
         Town.tell(oak, n == 0 ? "1 right or 1 left;see oak or see pond or loose;" : "on 3 or on 1;", 2 * n, 4 + n);
         oak.went(n, n, 1, 9 + 50 * n, 2 - n);
         oak.went(1 - n, 1, 3 - 2 * n, 20 + n, 1 + n);
+    }
+
+    private static void imagesOfRecords() {
+        Town town = new Town();
+        BurntOak oak = town.oak;
+        town.tell("on until gate;", 3);
+        town.tell("on until gate;on 1;", 3);
+        oak.image(0);
+        oak.went(0, 0, Town.EAST, 75, 3);
+        Check.same("30: it is the inn", oak.learned(0, 7), 64);
+        oak.image(1);
+        int[][] others = {{0, 0, Town.EAST, 9, 3}, {1, 0, Town.EAST, 75, 3}, {0, 1, Town.EAST, 75, 3}, {0, 0, 8, 75, 3}, {0, 0, Town.EAST, 75, 4}};
+        for (int[] r : others) {
+            oak.restore(0);
+            oak.went(r[0], r[1], r[2], r[3], r[4]);
+            Check.so("30: it is not", oak.learned(0, 7) != 64);
+            oak.restore(1);
+            Check.same("37: it is the inn again", oak.learned(0, 7), 64);
+            Check.same("37: told at the goal", oak.told(0, false), 1);
+        }
     }
 
     private static void imagesOfTellings() {

@@ -4,7 +4,11 @@ public final class WordsTest {
     }
 
     private static void leads(String text, int walker, int state, int year, String due) {
-        Check.same("18: '" + text + "' for " + walker + " from " + state + " in " + year, Town.led(text, walker, state, year), due);
+        String what = "18: '" + text + "' for " + walker + " from " + state + " in " + year;
+        int[] elsewhere = {0, 27, 30, 31, 32, 49};
+        for (int ways : elsewhere) {
+            Check.same(what + " behind " + ways + " ways", Town.led(text, walker, state, year, ways), due);
+        }
     }
 
     public static void main(String[] args) {
@@ -20,6 +24,7 @@ public final class WordsTest {
         notNames();
         severalWords();
         comesTogether();
+        farAlongLongWays();
         edges();
         Check.finish(WordsTest.class);
     }
@@ -197,6 +202,23 @@ public final class WordsTest {
         for (String[] d : due) {
             int telling = Town.tell(oak, d[0], 0, 0);
             Check.same("18: '" + d[0] + "' where ways come together", Town.states(oak, telling, 0, 1, 0), d[1]);
+        }
+    }
+
+    /** LENGTHS are numbers, whatever a shift by 64 and more does. */
+    private static void farAlongLongWays() {
+        int[] lengths = {40, 41, 63, 64, 65, 74, 84, 99};
+        for (int length : lengths) {
+            BurntOak oak = new BurntOak();
+            oak.place(0, 0);
+            oak.place(10, 0);
+            oak.place(20, 0);
+            oak.way(0, 1, 0, length, 0, 200);
+            oak.way(1, 2, 0, 10, 0, 200);
+            oak.tongue();
+            oak.walker(0, 0, false, false, 20);
+            int telling = Town.tell(oak, "far 20;", 0, 0);
+            Check.same("18: far 20 along " + length, Town.states(oak, telling, 0, 1, 0), length == 40 ? "0" : "");
         }
     }
 
