@@ -117,6 +117,8 @@ final class Town {
         }
         all.append(oak.fault(0)).append(' ').append(oak.fault(1)).append(' ').append(oak.teller());
         int[] years = {0, 49, 50, 75, 100, 101, 200};
+        // Not all states of a large world: an odd step meets all sorts of them.
+        int step = Math.max(3, 4 * oak.count(1) / 15 | 1);
         for (int year : years) {
             for (int state = 0; state < 4 * oak.count(1); state++) {
                 all.append('\n').append(oak.state(state, 0));
@@ -137,7 +139,7 @@ final class Town {
             for (int telling = 0; telling < oak.count(5) && oak.count(1) > 0; telling++) {
                 all.append('\n').append(oak.sayings(telling));
                 for (int walker = 0; walker < oak.count(4); walker++) {
-                    for (int state = 0; state < 4 * oak.count(1); state += 3) {
+                    for (int state = 0; state < 4 * oak.count(1); state += step) {
                         all.append(' ').append(oak.end(telling, walker, state, year, -1)).append(oak.end(telling, walker, state, year, 0));
                         all.append(oak.right(telling, walker, state, year)).append(oak.holds(telling, walker, state, year));
                     }
