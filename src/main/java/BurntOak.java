@@ -821,9 +821,11 @@ public final class BurntOak {
             marks = other.marks;
             System.arraycopy(other.markPlace, 0, markPlace, 0, MOST_MARKS);
             System.arraycopy(other.markKind, 0, markKind, 0, MOST_MARKS);
-            System.arraycopy(other.markTall, 0, markTall, 0, MOST_MARKS);
             System.arraycopy(other.markFrom, 0, markFrom, 0, MOST_MARKS);
             System.arraycopy(other.markTo, 0, markTo, 0, MOST_MARKS);
+            for (int m = 0; m < MOST_MARKS; m++) {
+                markTall[m] = other.markTall[m];
+            }
         }
     }
 
@@ -835,7 +837,7 @@ public final class BurntOak {
         final int[] tongueOf = new int[MOST_WALKERS];
         final int[] notices = new int[MOST_WALKERS];
         final boolean[] turns = new boolean[MOST_WALKERS];
-        final boolean[] paths = new boolean[MOST_WALKERS];
+        final boolean[] countsPaths = new boolean[MOST_WALKERS];
         final int[] patience = new int[MOST_WALKERS];
 
         int addTongue() {
@@ -855,7 +857,7 @@ public final class BurntOak {
             tongueOf[walkers] = tongue;
             notices[walkers] = noticed;
             turns[walkers] = turned;
-            paths[walkers] = onPaths;
+            countsPaths[walkers] = onPaths;
             patience[walkers] = most;
             return walkers++;
         }
@@ -885,9 +887,11 @@ public final class BurntOak {
             walkers = other.walkers;
             System.arraycopy(other.tongueOf, 0, tongueOf, 0, MOST_WALKERS);
             System.arraycopy(other.notices, 0, notices, 0, MOST_WALKERS);
-            System.arraycopy(other.turns, 0, turns, 0, MOST_WALKERS);
-            System.arraycopy(other.paths, 0, paths, 0, MOST_WALKERS);
             System.arraycopy(other.patience, 0, patience, 0, MOST_WALKERS);
+            for (int walker = 0; walker < MOST_WALKERS; walker++) {
+                turns[walker] = other.turns[walker];
+                countsPaths[walker] = other.countsPaths[walker];
+            }
         }
     }
 
@@ -1506,7 +1510,7 @@ public final class BurntOak {
 
         /** At the N-th PLACE with a way to that side; PLACES that are passed over don't count. */
         private void turnAt(int number, int side, long passedOver, States to) {
-            boolean allCount = folk.paths[who];
+            boolean allCount = folk.countsPaths[who];
             long low = allCount ? -1L : ~map.paths[0];
             long high = allCount ? -1L : ~map.paths[1];
             for (int gone = 0; gone < folk.patience[who] && steps.go(); gone++) {

@@ -32,8 +32,21 @@ public final class LanguageTest {
         while (library.find()) {
             Check.so("rule 4: " + library.group(), OTHERS.contains(library.group()));
         }
+        rowsOfNumbers(code);
         methods(code);
         Check.finish(LanguageTest.class);
+    }
+
+    /** The library copies and fills rows of numbers alone. */
+    private static void rowsOfNumbers(String code) {
+        Matcher row = Pattern.compile("\\b(?:boolean|[A-Z]\\w*)\\[\\] (\\w+) =").matcher(code);
+        int rows = 0;
+        while (row.find()) {
+            rows++;
+            String given = "(?:Arrays\\.fill|System\\.arraycopy)\\([^;]*\\b" + row.group(1) + "\\b";
+            Check.so("rule 4: the library changes " + row.group(1), !Pattern.compile(given).matcher(code).find());
+        }
+        Check.so("rule 4: rows that are none of numbers were looked at", rows >= 4);
     }
 
     /** Methods are short, and take at most seven parameters. */

@@ -12,6 +12,7 @@ public final class TraysTest {
         imagesLeaveOut();
         imagesOfEverything();
         imagesOfTwoWorlds();
+        imagesOfFullWorlds();
         imagesOfTellings();
         imagesOfRecords();
         count();
@@ -244,11 +245,98 @@ public final class TraysTest {
         oak.went(1 - n, 1, 3 - 2 * n, 20 + n, 1 + n);
     }
 
+    /** Two worlds in which there is no room left, so that the last of each sort is kept and comes back. */
+    private static void imagesOfFullWorlds() {
+        BurntOak oak = new BurntOak();
+        oak.image(0);
+        String[] due = new String[2];
+        for (int n = 0; n < 2; n++) {
+            BurntOak untouched = new BurntOak();
+            fullWorld(untouched, n);
+            due[n] = Town.all(untouched) + further(untouched);
+            oak.restore(0);
+            fullWorld(oak, n);
+            oak.image(n + 1);
+        }
+        Check.so("36: they differ", !due[0].equals(due[1]));
+        for (int n = 0; n < 2; n++) {
+            oak.restore(n + 1);
+            Check.same("37: full world " + n, Town.all(oak) + further(oak), due[n]);
+        }
+    }
+
+    /** Where there are places, where all tellings lead from all states, and what names mean. */
+    private static String further(BurntOak oak) {
+        StringBuilder all = new StringBuilder();
+        for (int at = 0; at < 100 * 100; at++) {
+            try {
+                all.append(oak.place(at % 100, at / 100));
+            } catch (IllegalArgumentException e) {
+                all.append("\n").append(at);
+            }
+        }
+        for (int telling = 0; telling < oak.count(5); telling++) {
+            for (int state = 0; state < 4 * oak.count(1); state++) {
+                all.append('\n').append(oak.sayings(telling));
+                for (int walker = 0; walker < oak.count(4); walker++) {
+                    all.append(' ').append(Town.states(oak, telling, walker, state, 9)).append(',');
+                }
+            }
+        }
+        for (int tongue = 0; tongue < oak.count(3); tongue++) {
+            for (int name = 0; name < 12; name++) {
+                all.append(' ').append(oak.means(tongue, name, 0));
+            }
+        }
+        return all.toString();
+    }
+
+    private static void fullWorld(BurntOak oak, int n) {
+        boolean first = n == 0;
+        for (int p = 0; p < 40; p++) {
+            oak.place(6 * (p % 8) + n * (1 + p % 3), first ? 7 * (p / 8) : 90 - 5 * (p / 8) - p % 2);
+        }
+        for (int w = 0; w < 60; w++) {
+            int a = w < 32 ? w : w - 32 + (w - 32) / 7;
+            int b = w < 32 ? a + 8 : a + 1;
+            oak.way(first ? a : b, first ? b : a, (w + n) % 3, 1 + w % 9 + n, 8 * n, 200 - 5 * n);
+        }
+        for (int m = 0; m < 40; m++) {
+            oak.mark((m * 11 + n) % 40, (m + n) % 12, m % 2 == n, 3 * n, 200 - 7 * n);
+        }
+        for (int t = 0; t < 6; t++) {
+            oak.tongue();
+            oak.means(t, 11 - n, 3 << t + n);
+        }
+        for (int w = 0; w < 8; w++) {
+            oak.walker((w + n) % 6, 4095 - (1 << w + n), w % 2 == n, w % 3 == n, 3 + w + n);
+        }
+        String[] words = {"1 left", "on 1", "right", "far 3", "2 right", "past oak"};
+        for (int t = 0; t < 12; t++) {
+            String last = words[(t + n) % 6] + " or left or back or " + words[(t + n + 1) % 6];
+            Town.tell(oak, "loose;".repeat(9 - n) + last + ";", t + 13 * n, (t + n) % 10);
+        }
+        for (int r = 0; r < 30; r++) {
+            oak.went((r + n) % 8, (r + n) % 12, 7 * r + n, r + 50 * n, first ? r % 12 : r % 12 + 14);
+        }
+    }
+
     private static void imagesOfRecords() {
+        imagesOfRecord(0);
+        imagesOfRecord(29);
+    }
+
+    /** Of one that says what a gate is, behind so many that say nothing. */
+    private static void imagesOfRecord(int ahead) {
         Town town = new Town();
         BurntOak oak = town.oak;
         town.tell("on until gate;", 3);
         town.tell("on until gate;on 1;", 3);
+        Town.tell(oak, "", 0, 1);
+        for (int n = 0; n < ahead; n++) {
+            oak.went(0, 2, Town.EAST, 9, 0);
+        }
+        Check.same("30: it may be anything", oak.learned(0, 7), 4095);
         oak.image(0);
         oak.went(0, 0, Town.EAST, 75, 3);
         Check.same("30: it is the inn", oak.learned(0, 7), 64);
