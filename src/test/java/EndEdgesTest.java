@@ -30,11 +30,13 @@ public final class EndEdgesTest {
         ofLikeOnesTheLeast();
         askedOfNobodyAnywhere();
         askedInLikeShares();
+        askedOfPartsThatAreLeft();
         prices();
         eachWordIsShortest();
         theFewestThenTheLeastRow();
         asManyAsMost();
         forEachOfTheWalkers();
+        notIfSomeStateGoesAstray();
         whereOneIsAlready();
         theKthWord();
         Check.finish(EndEdgesTest.class);
@@ -425,6 +427,29 @@ public final class EndEdgesTest {
         Check.same("27: behind the second as well", oak.ask(4, 1, 0, 0, 0, 0, true), 666666);
     }
 
+    /** Where he asks, three states share a million: the one with the least number has the part that is left. */
+    private static void askedOfPartsThatAreLeft() {
+        BurntOak oak = new BurntOak();
+        int[][] places = {{10, 50}, {20, 50}, {20, 60}, {30, 60}, {10, 60}};
+        for (int p = 0; p < 5; p++) {
+            oak.place(places[p][0], places[p][1]);
+        }
+        oak.way(0, 1, 0, 1, 0, 200);
+        for (int p = 2; p < 5; p++) {
+            oak.way(1, p, 0, 1, 0, 200);
+        }
+        oak.tongue();
+        // What is left to others is right to him, and there is nothing to the right.
+        oak.walker(0, 4095, true, true, 1);
+        oak.walker(0, 4095, false, true, 1);
+        for (int goal = 2; goal < 5; goal++) {
+            Town.tell(oak, "left;loose;", goal, 0);
+            int loss = goal == 2 ? 666666 : 666667;
+            Check.same("27: asked where three ways end", oak.ask(goal - 2, 0, 1, 0, 0, 0, false), 1);
+            Check.same("27: its share of what is left", oak.ask(goal - 2, 0, 1, 0, 0, 0, true), loss);
+        }
+    }
+
     private static void prices() {
         Edges.refused("27: a price below 0", Check.ARGUMENT, RICH, o -> o.ask(1, 0, 1, 0, 9, -1, true));
         Edges.refused("27: a price above a million", Check.ARGUMENT, RICH, o -> o.ask(1, 0, 1, 0, 9, 1000001, false));
@@ -525,6 +550,29 @@ public final class EndEdgesTest {
         shortest("the last alone", eight, 128, Edges.START, 2, 3, 4);
         BurntOak fork = star(2);
         shortest("not if some way ends elsewhere", fork, 1, Edges.START, 2, 1);
+    }
+
+    /** On behind 1 is to 2 and to 3 alike, and straight on from there to 4 and to 5. */
+    private static void notIfSomeStateGoesAstray() {
+        BurntOak oak = new BurntOak();
+        int[][] places = {{10, 50}, {20, 50}, {30, 60}, {30, 40}, {40, 70}, {40, 30}};
+        for (int[] p : places) {
+            oak.place(p[0], p[1]);
+        }
+        int[][] ways = {{0, 1}, {1, 2}, {1, 3}, {2, 4}, {3, 5}};
+        for (int[] w : ways) {
+            oak.way(w[0], w[1], 0, 1, 0, 200);
+        }
+        oak.tongue();
+        Edges.walker(oak, 20);
+        oak.walker(0, 4095, true, true, 20);
+        shortest("left, then on, not on twice", oak, 1, 0, 4, 3, 1, 0);
+        shortest("right, then on, though the other state has the lower number", oak, 1, 0, 5, 3, 2, 0);
+        shortest("on is for one of two", oak, 1, Edges.START, 4, 3, 27, 0);
+        shortest("what is left to one is right to the other", oak, 3, 0, 4, 3);
+        // From 3 an oak is straight on, from 2 none: that state goes nowhere, so none goes astray.
+        oak.mark(5, 0, false, 9, 9);
+        shortest("a state that comes nowhere", oak, 3, 0, 5, 3, 3);
     }
 
     private static void whereOneIsAlready() {

@@ -16,6 +16,7 @@ public final class FolkEdgesTest {
         seenAlongAWay();
         seenInTheYearsOfBoth();
         seenIfItIsTall();
+        seenIfOneIsNear();
         worthInItsYears();
         worthOfSets();
         worthByNames();
@@ -160,6 +161,17 @@ public final class FolkEdgesTest {
         Check.so("12: one of two is tall", oak.stands(0, 4, 1, 75, true) && !oak.stands(0, 4, 1, 76, true));
     }
 
+    private static void seenIfOneIsNear() {
+        BurntOak oak = pondInTheMiddle();
+        oak.mark(4, 4, true, 0, 200);
+        oak.mark(0, 4, false, 0, 200);
+        for (int place = 0; place < 5; place++) {
+            Check.so("12: some pond from " + place, oak.stands(0, 4, place, 75, true));
+        }
+        Check.so("12: the last one, from beside it", oak.stands(0, 4, 3, 49, true));
+        Check.so("12: neither the far one nor the low one", !oak.stands(0, 4, 1, 49, true) && !oak.stands(0, 4, 2, 49, true));
+    }
+
     private static void worthInItsYears() {
         BurntOak oak = pondInTheMiddle();
         int[] years = {0, 49, 50, 100, 101, 200};
@@ -210,6 +222,7 @@ public final class FolkEdgesTest {
         int beside = oak.mark(2, 4, false, 100, 100);
         oak.mark(0, 4, false, 0, 99);
         oak.mark(1, 5, false, 0, 200);
+        Check.same("13: another one is there, but it isn't yet", oak.worth(0, 1, 49, 1), -1);
         Check.same("13: one ahead", oak.worth(0, 1, 99, 1), 1);
         Check.same("13: one at the same place", oak.worth(0, 1, 100, 1), 1);
         Check.same("13: that one's other", oak.worth(beside, 1, 100, 1), 1);
