@@ -159,6 +159,18 @@ final class Edges {
         }
     }
 
+    /** Ten sayings: in one of them a word comes as the first, the second .. of four, the others say nothing. */
+    static String oneWord(int saying, int at, String word) {
+        StringBuilder text = new StringBuilder();
+        for (int n = 0; n < 10; n++) {
+            for (int w = 0; w < 4 && n == saying; w++) {
+                text.append(w == 0 ? "" : " or ").append(w == at ? word : "on 20");
+            }
+            text.append(n == saying ? ";" : "loose;");
+        }
+        return text.toString();
+    }
+
     // ---- lines: places 0, 1, 2 .. from west to east; way n goes from place n to n + 1
 
     /** At place 0, facing east; come to place n: 4 * (n - 1). */

@@ -37,6 +37,7 @@ public final class EndEdgesTest {
         asManyAsMost();
         forEachOfTheWalkers();
         notIfSomeStateGoesAstray();
+        fromTheLastStateAndAtTheLastPlace();
         whereOneIsAlready();
         theKthWord();
         Check.finish(EndEdgesTest.class);
@@ -573,6 +574,29 @@ public final class EndEdgesTest {
         // From 3 an oak is straight on, from 2 none: that state goes nowhere, so none goes astray.
         oak.mark(5, 0, false, 9, 9);
         shortest("a state that comes nowhere", oak, 3, 0, 5, 3, 3);
+    }
+
+    /** In a world of 40 places and 60 ways, from each state, to the last one: who stays is where he is. */
+    private static void fromTheLastStateAndAtTheLastPlace() {
+        Town town = new Town(49);
+        BurntOak oak = town.oak;
+        int stay = town.tell("loose;loose;", 39);
+        for (int state = 0; state < 240; state++) {
+            int place = oak.state(state, 0);
+            String what = " from state " + state;
+            Check.same("18: it stays," + what, oak.leads(stay, 0, state, 9, 2, 0), state);
+            Check.same("20: it ends there," + what, oak.end(stay, 0, state, 9, 0), place);
+            Check.same("21: right," + what, oak.right(stay, 0, state, 9) ? 1 : 0, place == 39 ? 1 : 0);
+            Check.same("22: all is there," + what, oak.odds(stay, 0, state, 9, place), 1000000);
+            Check.same("22: nothing is elsewhere," + what, oak.odds(stay, 0, state, 9, (place + 1) % 40), 0);
+            Check.same("25: in all years," + what, oak.years(stay, 0, state, 0), place == 39 ? 201 : 0);
+            Check.same("26: two of them in common," + what, oak.two(stay, state, stay, state, 0, 9, 0), 1);
+            Check.same("26: two of them surely," + what, oak.two(stay, state, stay, state, 0, 9, 1), 1000000);
+            Check.same("26: at both ends of an arrow," + what, oak.two(stay, state, stay, state ^ 1, 0, 9, 1), 0);
+            Check.same("27: the loss," + what, oak.ask(stay, 0, 1, state, 9, 5, true), place == 39 ? 0 : 1000000);
+        }
+        Check.same("22: from the last state on", oak.odds(town.tell("on 1;", 4), 0, 239, 9, 4), 1000000);
+        Check.same("28: from the last state on", oak.shortest(1, 239, 4, 9, 3, 0), 0);
     }
 
     private static void whereOneIsAlready() {

@@ -244,11 +244,14 @@ public final class TextEdgesTest {
         awaits("on until ", "2 at 9", names, begins, others);
         awaits("1 left not ", "2 at 11", names, begins, others);
         awaits("1 ", "2 at 2", new String[] {"left", "right"}, names, new String[] {"on", "past", "far", "see", "over", "loose", "back"}, others);
-        awaits("left ", "2 at 5", new String[] {"or"}, names, begins, new String[] {"until", "not"});
-        awaits("1 left ", "2 at 7", new String[] {"or", "not"}, names, begins, new String[] {"until"});
-        awaits("1 left not oak ", "2 at 15", new String[] {"or"}, names, begins, new String[] {"until", "not"});
-        awaits("on 1 ", "2 at 5", new String[] {"or"}, names, begins, new String[] {"until", "not"});
-        awaits("back ", "2 at 5", new String[] {"or"}, names, begins, new String[] {"until", "not"});
+        String[] whole = {"on 1", "on until oak", "past oak", "far 1", "see oak", "over oak", "loose", "back", "left", "right", "1 left not oak",
+            "1 right not cross"};
+        for (String word : whole) {
+            awaits(word + " ", "2 at " + (word.length() + 1), new String[] {"or"}, names, begins, new String[] {"until", "not"});
+        }
+        for (String word : new String[] {"1 left", "1 right"}) {
+            awaits(word + " ", "2 at " + (word.length() + 1), new String[] {"or", "not"}, names, begins, new String[] {"until"});
+        }
     }
 
     /** Behind the beginning these words can stand, those can't; a number (20, and "0" where it can stand) as told. */

@@ -15,6 +15,7 @@ public final class TrayEdgesTest {
         numbersThatAreNoWords();
         cutToAWord();
         tenAreSaid();
+        saidOverAnother();
         nothingIsSaid();
         whatIsSaidStays();
         imagesFromZeroToTwo();
@@ -158,6 +159,23 @@ public final class TrayEdgesTest {
         Edges.refused("35: ten, but teller -1", Check.ARGUMENT, () -> tray(1, ten), o -> o.say(0, 2, -1));
         Edges.refused("35: missing comes ahead of the teller", Check.STATE, () -> tray(1, ten), o -> o.say(1, 2, -1));
         Edges.refused("35: no such place comes ahead of missing", Check.NO_SUCH, () -> tray(1, ten), o -> o.say(1, 3, -1));
+    }
+
+    /** In the place of a telling that a restored image hasn't, of which no word is left. */
+    private static void saidOverAnother() {
+        BurntOak oak = Edges.line(12, 1);
+        Edges.walker(oak, 3);
+        oak.image(0);
+        oak.tray(0, 0, 10);
+        for (int saying = 0; saying < 10; saying++) {
+            for (int word = 0; word < 4; word++) {
+                Town.tell(oak, Edges.oneWord(saying, word, "loose"), 0, 0);
+                oak.restore(0);
+                Check.same("35: in its place", oak.say(0, 0, 0), 0);
+                Check.same("35: behind word " + word + " of saying " + saying, Town.states(oak, 0, 0, Edges.START, 9), "" + Edges.come(10));
+                oak.restore(0);
+            }
+        }
     }
 
     private static void nothingIsSaid() {

@@ -33,6 +33,8 @@ public final class WordEdgesTest {
         notWhereOneIs();
         leftIsRightForSome();
         fourWords();
+        eachWordOfEachSaying();
+        inAllStatesAtOnce();
         comeTogetherAsOne();
         goneRound();
         inTheYearsOfTheWays();
@@ -346,6 +348,72 @@ public final class WordEdgesTest {
         leads("the first alone leads", line(24, 1, 3), "on 3 or back or left or on 4;", "8");
         leads("four that lead to one", line(24, 1, 3), "on 1 or on until mill or on 01 or on 1;", "0");
         leads("four that lead nowhere", line(24, 1, 3), "on 4 or back or left or right;", "");
+    }
+
+    /** The only word that leads on is each in turn, to the fourth of the tenth saying. */
+    private static void eachWordOfEachSaying() {
+        for (int saying = 0; saying < 10; saying++) {
+            for (int word = 0; word < 4; word++) {
+                leads("word " + word + " of saying " + saying, line(24, 1, 3), Edges.oneWord(saying, word, "on 1"), "0");
+            }
+        }
+    }
+
+    /**
+     * Places all of whose ways lie in closed lines: 5 from south to north and 4 from west to east cross, both ends of each are
+     * joined; in two of these a place lies between. So ON leads from each state to which one can come to another one.
+     */
+    private static BurntOak crossingLines() {
+        BurntOak oak = new BurntOak();
+        for (int n = 0; n < 42; n++) {
+            int x = n % 7;
+            int y = n / 7;
+            if ((x > 0 && x < 6) || (y > 0 && y < 5)) {
+                oak.place(10 * x, 10 * y);
+            }
+        }
+        int between = oak.place(70, 12);
+        oak.place(12, 70);
+        for (int line = 0; line < 4; line++) {
+            int west = 5 + 7 * line;
+            closedLine(oak, line == 0 ? between : BurntOak.NONE, west, west + 1, west + 2, west + 3, west + 4, west + 5, west + 6);
+        }
+        for (int line = 0; line < 5; line++) {
+            closedLine(oak, line == 0 ? between + 1 : BurntOak.NONE, line, line + 6, line + 13, line + 20, line + 27, line + 33);
+        }
+        oak.tongue();
+        Edges.walker(oak, 20);
+        return oak;
+    }
+
+    private static void closedLine(BurntOak oak, int between, int... places) {
+        int last = places.length - 1;
+        for (int n = 0; n < last; n++) {
+            oak.way(places[n], places[n + 1], 0, 1, 0, 200);
+        }
+        if (between == BurntOak.NONE) {
+            oak.way(places[last], places[0], 0, 1, 0, 200);
+        } else {
+            oak.way(places[last], between, 0, 1, 0, 200);
+            oak.way(between, places[0], 0, 1, 0, 200);
+        }
+    }
+
+    private static void inAllStatesAtOnce() {
+        BurntOak oak = crossingLines();
+        Check.same("3: as many ways as there can be", oak.count(1), 60);
+        int telling = Town.tell(oak, "left or right or far2or loose;".repeat(6) + "on1;", 0, 0);
+        StringJoiner all = new StringJoiner(" ");
+        for (int state = 0; state < 240; state += 2) {
+            all.add("" + state);
+        }
+        Check.same("18: in all states to which one can come", Town.states(oak, telling, 0, 1, 9), all.toString());
+        Check.same("20: at all places", oak.end(telling, 0, 1, 9, -1), 40);
+        int parts = 0;
+        for (int place = 0; place < 40; place++) {
+            parts += oak.odds(telling, 0, 1, 9, place);
+        }
+        Check.same("22: none is lost", parts, 1000000);
     }
 
     /** Two ways fork and come together: of as many ONs, but of unlike lengths and places counted. */
